@@ -258,8 +258,13 @@ public final class SectorArchive {
         if (planned.count + changes.addedCount > MOST_FILES) {
             return false;
         }
-        packer.packBlock(changes.addedBytes, changes.addedTotal);
-        return (changes.addedCount == 0 || planBlock(nextTime)) && planIndexPlace();
+        if (changes.addedCount > 0) {
+            packer.packBlock(changes.addedBytes, changes.addedTotal);
+            if (!planBlock(nextTime)) {
+                return false;
+            }
+        }
+        return planIndexPlace();
     }
 
     private boolean planBlock(int nextTime) {

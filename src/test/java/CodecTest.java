@@ -7,6 +7,7 @@ final class CodecTest {
         packsMatches();
         packsDifferences();
         packsPrefix();
+        packsPrefixTrees();
         tiesGoToTheLeastCodec();
         packsNothing();
         decodesStored();
@@ -49,6 +50,10 @@ final class CodecTest {
 
     private static void packsStored() {
         packs("stored", 0, Rig.row(7, 250, 3), "00000111 11111010 00000011");
+        packs("eleven bytes in one sector", 0, Rig.row(1, 50, 7, 200, 9, 90, 33, 128),
+                "00000001 00110010 00000111 11001000 00001001 01011010 00100001 10000000");
+        packs("twelve bytes in two sectors", 0, Rig.row(1, 50, 7, 200, 9, 90, 33, 128, 77),
+                "00000001 00110010 00000111 11001000 00001001 01011010 00100001 10000000 01001101");
         int[] raw = {3, 99, 14, 201, 77, 160, 8, 255, 31, 120, 66, 180};
         packs("stored over two sectors", 0, raw,
                 "00000011 01100011 00001110 11001001 01001101 10100000 00001000 11111111 00011111 01111000 01000010 10110100");
@@ -82,6 +87,35 @@ final class CodecTest {
         packs("four bytes", 3, raw,
                 "0000100  00000001 0011  00000101 0010  00000111 0001  11001000 0011 "
                         + " 0 10 0 110 0 0 111 10 0 0 10 110 0 111 0 10 10 0 0 110 0 111 10 0");
+    }
+
+    /** Two commits of two files of 24 bytes each, so that nothing of the first block is left in the second. */
+    private static void packsPrefixTrees() {
+        Rig r = new Rig("trees");
+        // Weights 8, 8, 16, 16: 10 and 20 weigh 16 together and come first by their least byte, so 30 joins them.
+        int[] one = {
+            40, 30, 20, 40, 40, 20, 30, 20, 40, 30, 40, 40, 10, 40, 10, 40, 30, 40, 10, 40, 40, 10, 30, 30,
+            40, 40, 40, 20, 30, 10, 30, 40, 30, 10, 20, 20, 40, 30, 30, 10, 20, 30, 30, 30, 20, 30, 10, 30};
+        twoFiles(r, 2, one, "0000100 00001010 0011 00010100 0011 00011110 0010 00101000 0001", "110", "111", "10", "0");
+        // Weights 10, 10, 12, 16: 11 and 21 weigh 20 together, so 31 and 41 are joined before.
+        int[] two = {
+            21, 21, 21, 31, 41, 11, 31, 31, 31, 41, 31, 11, 11, 31, 41, 41, 41, 41, 31, 41, 31, 21, 31, 11,
+            41, 21, 21, 11, 41, 21, 21, 11, 21, 31, 41, 21, 11, 41, 41, 11, 41, 11, 41, 31, 41, 41, 11, 31};
+        twoFiles(r, 6, two, "0000100 00001011 0010 00010101 0010 00011111 0010 00101001 0010", "00", "01", "10", "11");
+    }
+
+    /** The codes are those of the bytes 10, 20, 30, 40, or of 11, 21, 31, 41. */
+    private static void twoFiles(Rig r, int first, int[] raw, String table, String... codes) {
+        StringBuilder bits = new StringBuilder(table);
+        for (int b : raw) {
+            bits.append(codes[b / 10 - 1]);
+        }
+        int[] coded = bytes(bits.toString());
+        int[] block = join(Rig.row(3, 48, coded.length), coded);
+        r.put(6, 1, Arrays.copyOf(raw, 24)).put(6, 2, Arrays.copyOfRange(raw, 24, 48)).commit(first == 2 ? 10 : 12);
+        r.sector(first, Arrays.copyOf(block, 11)).sector(first + 1, Arrays.copyOfRange(block, 11, 22));
+        int version = first == 2 ? 1 : 3;
+        r.holds(6, version, Arrays.copyOf(raw, 24)).holds(6, version + 1, Arrays.copyOfRange(raw, 24, 48));
     }
 
     private static void tiesGoToTheLeastCodec() {
@@ -162,12 +196,19 @@ final class CodecTest {
         fails("the table runs out at once", 3, 1, "");
         // After the seven bits nine are left: eight would be too few for the byte and its length.
         fails("the table runs out in its first byte", 3, 1, "0000001 00000101 0");
+        fails("the table runs out, and there is none to take", 3, 0, "0000010 00000101 0001 00000110");
+        fails("bytes that fall, and there is none to take", 3, 0, "0000010 00000101 0001 00000100 0001 0");
         fails("codes run out", 3, 8, "0000001 00000101 0001 0 0 0 0 0");
         fails("no code", 3, 1, "0000001 00000101 0001  1 0000000 00000000 00000000");
         fails("no code, and bits run out", 3, 1, "0000001 00000101 0010  10 000");
     }
 
     private static void decodesPrefixOfOddLengths() {
+        StringBuilder table = new StringBuilder("1111111");
+        for (int b = 0; b < 127; b++) {
+            table.append(Integer.toBinaryString(256 + b).substring(1)).append("0111");
+        }
+        reads("127 bytes", 3, 3, table + "1111110 0000000 0111111", 126, 0, 63);
         reads("a single byte of length 15", 3, 2, "0000001 00000101 1111  000000000000000 000000000000000", 5, 5);
         fails("a single byte of length 15, other bits", 3, 1, "0000001 00000101 1111  000000000000001 000000000000000");
         // Lengths 1, 1, 1, 2: the codes are 0, 1, and two that need more bits than they have.

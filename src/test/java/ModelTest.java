@@ -1,6 +1,7 @@
 /** Long runs of calls, drawn from a fixed row of numbers, answered by the class as by the plain model. */
 final class ModelTest {
     private static final int RUNS = 4000;
+    /** Counts the calls that can change something; looking at all there is takes many more. */
     private static final int CALLS = 500;
 
     private static long seed;
