@@ -12,7 +12,9 @@ final class CodecBoundaryTest {
         differencesModulo256();
         prefixTellsHowManyDifferentBytes();
         prefixOfTheSameWeightTheLeastByteFirst();
+        prefixTreesHaveBothWeights();
         prefixCodesByLengthThenByByte();
+        prefixOfEachBlockAnew();
         prefixIsNotTakenForNoBytes();
         theCodecThatGivesTheFewestBytes();
         ofThoseTheOneWithTheLeastNumber();
@@ -95,6 +97,34 @@ final class CodecBoundaryTest {
             bits.append(b == 10 ? "10" : b == 20 ? "11" : "0");
         }
         Blocks.packs("PREFIX: of the same weight that with the least byte in it first", 3, raw, bits.toString());
+    }
+
+    private static void prefixTreesHaveBothWeights() {
+        // Weights 5, 5, 6, 8 of 11, 21, 31, 41: 11 and 21 weigh 10 together, so 31 and 41 come before them, and all have length 2.
+        int[] raw = {41, 11, 31, 21, 41, 41, 31, 11, 21, 41, 31, 31, 11, 41, 21, 21, 41, 31, 11, 41, 21, 41, 31, 11};
+        StringBuilder bits = new StringBuilder("0000100 00001011 0010 00010101 0010 00011111 0010 00101001 0010 ");
+        for (int b : raw) {
+            bits.append(b == 11 ? "00" : b == 21 ? "01" : b == 31 ? "10" : "11");
+        }
+        Blocks.packs("PREFIX: the two trees of least weight become one with both weights", 3, raw, bits.toString());
+        // Weights 4, 4, 8, 8 of 10, 20, 30, 40: 10 and 20 weigh 8 together and have the least byte in them, so 30 joins them.
+        int[] tied = {40, 30, 20, 40, 30, 10, 30, 40, 40, 20, 30, 40, 10, 30, 30, 20, 40, 40, 10, 30, 20, 40, 30, 10};
+        bits = new StringBuilder("0000100 00001010 0011 00010100 0011 00011110 0010 00101000 0001 ");
+        for (int b : tied) {
+            bits.append(b == 10 ? "110" : b == 20 ? "111" : b == 30 ? "10" : "0");
+        }
+        Blocks.packs("PREFIX: a tree of the same weight as a byte", 3, tied, bits.toString());
+    }
+
+    private static void prefixOfEachBlockAnew() {
+        // Nothing of the first block's bytes is left in the second's table, nor of one that was read between.
+        Rig r = new Rig("PREFIX: how many different bytes there are, twice");
+        r.put(0, 1, 28, 29, 29, 28, 28, 29).commit(6).put(0, 1, 0, 0, 1, 0, 0, 0).commit(8).holds(0, 1, 28, 29, 29, 28, 28, 29);
+        r.put(0, 1, 255, 0, 0, 255, 255, 0, 255).commit(8);
+        Blocks.sectors(r, 2, Blocks.block(3, 6, "0000010 00011100 0001 00011101 0001 0 1 1 0 0 1"));
+        Blocks.sectors(r, 4, Blocks.block(3, 6, "0000010 00000000 0001 00000001 0001 0 0 1 0 0 0"));
+        Blocks.sectors(r, 3, Blocks.block(3, 7, "0000010 00000000 0001 11111111 0001 1 0 0 1 1 0 1"));
+        r.holds(0, 3, 255, 0, 0, 255, 255, 0, 255).holds(0, 2, 0, 0, 1, 0, 0, 0);
     }
 
     private static void prefixCodesByLengthThenByByte() {

@@ -55,12 +55,18 @@ final class CommitBoundaryTest {
     private static void noFileIs0And0() {
         Rig r = new Rig("0 and 0: there is no file");
         r.put(0, 1, 1).commit(6).remove(0, 1, true).commit(2).sector(0, 83, 65, 2, 0, 0).open(0).number(2).files(0);
+        // Also behind commits that had an index.
+        r.put(0, 1, 1).commit(6).put(0, 1, 2).commit(8).put(0, 1, 3).commit(8).remove(0, 1, true).remove(0, 2, true).remove(0, 3, true);
+        r.commit(2).sector(0, 83, 65, 6, 0, 0).open(0).number(6);
     }
 
     private static void sixTimes0() {
         Rig r = new Rig("and six times 0");
         r.lay(1, 83, 65, 255, 0, 0, 6, 5, 4, 3, 2, 1).lay(0, 1, 2, 3, 4, 5, 6, 7, 8, 9, 10, 11).open(0).number(255);
         r.put(0, 1, 1).commit(6).sector(0, 83, 65, 0, 3, 1).put(0, 1, 1).commit(8).sector(1, 83, 65, 1, 5, 2);
+        // The index that is written before it, of a file that begins at 2 and of two more, does not show through.
+        Rig s = new Rig("six times 0 behind an index").put(5, 1, 8, 9).put(1, 2, 7).put(2, 3, 6).commit(8).at(3, 5, 2);
+        s.sector(1, 83, 65, 1, 3, 2).remove(1, 1, true).remove(2, 1, true).remove(5, 1, true).commit(2).sector(0, 83, 65, 2, 0, 0);
     }
 
     private static void versionsFromTheIndexNow() {
@@ -154,6 +160,9 @@ final class CommitBoundaryTest {
         Rig r = laid("FULL when there is no such place, for the block", 3, 45).put(1, 1, 5).commit(-4).files(1).drop(1);
         // Removals alone need none: 2 is taken by the index, and no file is left.
         r.remove(0, 1, true).commit(2).files(0).put(1, 1, 5).commit(6).file(0, 4, 2);
+        // 46 and 47 would do for the index of two files, but not for a block of three sectors before it.
+        Rig three = laid("FULL when there is no such place, for the block alone", 3, 43);
+        three.put(1, 1, 3, 99, 14, 201, 77, 160, 8, 255, 31, 120, 66, 180, 92, 17, 230, 5, 141, 60, 212, 28).commit(-4).files(1).drop(1);
         // Two sectors in two holes are no place for a block of two.
         Rig s = new Rig("FULL when there is no such place, of holes");
         s.lay(1, 83, 65, 1, 2, 2).lay(2, 2, 0, 1, 5, 41, 0, 0, 1, 0, 2, 47).lay(3, 1, 0, 0, 1).open(2);

@@ -49,6 +49,7 @@ final class DecodeBoundaryTest {
         Blocks.fails("bits run out: PREFIX has none", 3, 1, "");
         Blocks.fails("bits run out: PREFIX in a byte of its table", 3, 1, "0000001 000001010");
         Blocks.fails("bits run out: PREFIX in a length of its table", 3, 1, "0000010 00000101 0001 00000");
+        Blocks.fails("bits run out: PREFIX in its table, and none are to be taken", 3, 0, "0000010 00000101 0001 00000");
         Blocks.fails("bits run out: PREFIX has a bit of a code of four", 3, 1, "0001100" + table(12, 4) + "0");
     }
 

@@ -1,3 +1,5 @@
+import java.util.Arrays;
+
 /** Long runs of calls, drawn from a fixed row of numbers, answered by the class as by the plain model. */
 final class ModelTest {
     private static final int RUNS = 4000;
@@ -9,6 +11,7 @@ final class ModelTest {
     private static int stops = 0;
     private static int damaged = 0;
     private static int full = 0;
+    private static int laid = 0;
 
     private static int draw(int bound) {
         seed = seed * 6364136223846793005L + 1442695040888963407L;
@@ -23,7 +26,7 @@ final class ModelTest {
 
     private ModelTest(int run) {
         this.run = run;
-        this.kind = run % 4;
+        this.kind = run % 5;
     }
 
     private void same(String call, long got, long want) {
@@ -147,6 +150,105 @@ final class ModelTest {
         }
     }
 
+    /** Makes a sector hold bytes and their check. */
+    private void lay(int s, int... bytes) {
+        int[] whole = Rig.sealed(Arrays.copyOf(bytes, 11));
+        for (int p = 0; p < 12; p++) {
+            int bits = m.image[s][p] ^ whole[p];
+            if (bits != 0) {
+                same("damage(" + s + ", " + p + ", " + bits + ")", bit(x.damage(s, p, bits)), bit(m.damage(s, p, bits)));
+            }
+        }
+    }
+
+    private void layAll(int first, int[] bytes) {
+        for (int i = 0; 11 * i < bytes.length && first + i < 48; i++) {
+            lay(first + i, Arrays.copyOfRange(bytes, 11 * i, 11 * i + 11));
+        }
+    }
+
+    private static int oneOf(int... values) {
+        return values[draw(values.length)];
+    }
+
+    /** An index whose values lie at the edges of what is taken, at times one step beyond. */
+    private int[] edgeIndex(int files) {
+        int[] bytes = new int[1 + 7 * files];
+        bytes[0] = files;
+        int name = draw(2);
+        int version = 0;
+        for (int k = 0; k < files; k++) {
+            if (version > 250 || draw(2) == 0) {
+                name++;
+                version = 0;
+            }
+            version = Math.max(version + 1, oneOf(1, 1, 2, 250, 251, 252, 253));
+            int first = oneOf(2, 20, 30, 40, 46, 47);
+            int sectors = 1 + draw(Math.min(48 - first, draw(3) == 0 ? 40 : 4));
+            int[] entry = {name, version, first, sectors, oneOf(0, 0, 1, 24, 255), draw(25), oneOf(0, 1, 125, 126, 127, 128, 255)};
+            if (draw(60) == 0) {
+                entry[draw(6)] += oneOf(-1, 1);
+            }
+            for (int w = 0; w < 7; w++) {
+                bytes[1 + 7 * k + w] = entry[w] & 255;
+            }
+        }
+        return bytes;
+    }
+
+    private String someBits(int count) {
+        StringBuilder bits = new StringBuilder();
+        int style = draw(3);
+        for (int i = 0; i < count; i++) {
+            bits.append(style == 0 ? draw(2) : style == 1 ? draw(4) / 3 : 1 - draw(4) / 3);
+        }
+        return bits.toString();
+    }
+
+    /** A block that may be one: with a table whose bytes mostly rise, and lengths of any kind. */
+    private int[] edgeBlock() {
+        int codec = draw(12) == 0 ? draw(256) : draw(4);
+        StringBuilder bits = new StringBuilder();
+        if (codec == 3) {
+            int symbols = oneOf(0, 1, 2, 3, 3, 4, 5, 6, 7, 8);
+            bits.append(Integer.toBinaryString(128 + symbols).substring(1));
+            int value = draw(30) - 1;
+            for (int k = 0; k < symbols; k++) {
+                value += draw(40) == 0 ? 0 : 1 + draw(20);
+                int length = draw(40) == 0 ? 0 : draw(4) == 0 ? 1 + draw(15) : 1 + draw(4);
+                bits.append(Integer.toBinaryString(256 + value).substring(1)).append(Integer.toBinaryString(16 + length).substring(1));
+            }
+        }
+        bits.append(codec == 1 || codec == 2 ? "0" : "").append(someBits(draw(160)));
+        int count = codec == 0 ? draw(bits.length() / 8 + 2) : draw(30) == 0 ? 255 : draw(25);
+        return Blocks.block(codec, count, bits.toString());
+    }
+
+    /** Headers, an index and a block that lie at the edges, laid before the run. */
+    private void layEdges() {
+        int files = draw(30) == 0 ? 11 : 1 + draw(10);
+        int[] bytes = edgeIndex(files);
+        int need = (bytes.length + 10) / 11;
+        int sectors = draw(20) == 0 ? need - 1 : draw(20) == 0 ? need + 1 : need;
+        int first = draw(8) == 0 ? oneOf(1, 2, 47, 48 - sectors, 49 - sectors) : 3 + draw(12);
+        if (first > 1) {
+            layAll(first, bytes);
+        }
+        layAll(oneOf(20, 30, 40), edgeBlock());
+        int number = oneOf(0, 1, 2, 126, 253, 254, 255);
+        int slot = draw(2);
+        lay(slot, 83, 65, number, first, sectors);
+        if (draw(2) == 0) {
+            int other = number + oneOf(-1, 1, 2, 0) & 255;
+            lay(1 - slot, 83, 65, other, draw(2) == 0 ? 0 : first, draw(2) == 0 ? 0 : sectors);
+        }
+        if (draw(2) == 0) {
+            same("repair()", x.repair(), m.repair());
+        }
+        open();
+        laid += x.files() > 0 ? 1 : 0;
+    }
+
     private void setLimit() {
         int n = draw(15) == 0 ? draw(300) - 50 : draw(20);
         same("limit(" + n + ")", bit(x.limit(n)), bit(m.limit(n)));
@@ -177,7 +279,7 @@ final class ModelTest {
         } else if (what < 33) {
             extract(draw(10) - 1, draw(5));
         } else if (what < 35) {
-            if (kind >= 2) {
+            if (kind == 2 || kind == 3) {
                 setLimit();
             }
         } else if (what < 36) {
@@ -207,6 +309,9 @@ final class ModelTest {
         for (int run = 0; run < RUNS; run++) {
             seed = run * 7919L + 17;
             ModelTest test = new ModelTest(run);
+            for (int round = 0; test.kind == 4 && round < 3; round++) {
+                test.layEdges();
+            }
             while (test.calls < CALLS) {
                 test.step();
             }
@@ -217,7 +322,8 @@ final class ModelTest {
             System.out.println("blocks by codec " + c + ": " + codecs[c]);
             Rig.same("codec " + c + " comes", codecs[c] > 100 ? 1 : 0, 1);
         }
-        System.out.println("stops " + stops + ", FULL " + full + ", DAMAGED " + damaged);
+        System.out.println("stops " + stops + ", FULL " + full + ", DAMAGED " + damaged + ", laid archives with files " + laid);
+        Rig.same("laid archives are opened", laid > 100 ? 1 : 0, 1);
         Rig.same("stops, FULL and DAMAGED come", stops > 100 && full > 100 && damaged > 100 ? 1 : 0, 1);
         Rig.finish();
     }

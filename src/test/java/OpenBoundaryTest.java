@@ -161,6 +161,12 @@ final class OpenBoundaryTest {
         index("room for: 10 files in 6 sectors", 0, 6, files(10, 10));
         index("room for: 10 files in 7 sectors", 10, 7, files(10, 10));
         index("room for: 1 file in 40 sectors", 1, 40, files(1, 1));
+        // What was read of a larger index before does not stand in for what is missing.
+        for (int n : Rig.row(2, 4, 6, 10)) {
+            int sectors = (1 + 7 * n + 10) / 11;
+            Rig r = layAll(new Rig("room for: " + n + " files in a sector less"), 4, files(n, n)).lay(1, 83, 65, 5, 4, sectors).open(n);
+            r.relay(1, Rig.row(83, 65, 5, 4, sectors), Rig.row(83, 65, 5, 4, sectors - 1)).open(0).number(0);
+        }
     }
 
     private static void aName0To7() {
