@@ -15,6 +15,7 @@ final class CodecBoundaryTest {
         prefixTreesHaveBothWeights();
         prefixCodesByLengthThenByByte();
         prefixOfEachBlockAnew();
+        prefixOfTheLongestCodes();
         prefixIsNotTakenForNoBytes();
         theCodecThatGivesTheFewestBytes();
         ofThoseTheOneWithTheLeastNumber();
@@ -125,6 +126,36 @@ final class CodecBoundaryTest {
         Blocks.sectors(r, 4, Blocks.block(3, 6, "0000010 00000000 0001 00000001 0001 0 0 1 0 0 0"));
         Blocks.sectors(r, 3, Blocks.block(3, 7, "0000010 00000000 0001 11111111 0001 1 0 0 1 1 0 1"));
         r.holds(0, 3, 255, 0, 0, 255, 255, 0, 255).holds(0, 2, 0, 0, 1, 0, 0, 0);
+    }
+
+    /** Each weight is what the two least ones before it weigh together: no other bytes of a commit need longer codes. */
+    private static void prefixOfTheLongestCodes() {
+        int[] values = {50, 40, 60, 10, 20, 90, 80, 70, 71};
+        int[] weights = {34, 21, 13, 8, 5, 3, 2, 1, 1};
+        String[] codes = {"0", "10", "110", "1110", "11110", "111110", "1111110", "11111110", "11111111"};
+        StringBuilder bits = new StringBuilder("0001001");
+        for (int k : Rig.row(3, 4, 1, 0, 2, 7, 8, 6, 5)) {
+            bits.append(Integer.toBinaryString(256 + values[k]).substring(1)).append(Integer.toBinaryString(16 + codes[k].length()).substring(1));
+        }
+        Rig r = new Rig("PREFIX: (More than 15 is never needed.)");
+        int[][] raw = new int[4][22];
+        for (int i = 0; i < 88; i++) {
+            int k = 0;
+            for (int left = 37 * i % 88; left >= weights[k]; k++) {
+                left -= weights[k];
+            }
+            raw[i / 22][i % 22] = values[k];
+            bits.append(codes[k]);
+        }
+        for (int i = 0; i < 4; i++) {
+            r.put(i, i + 1, raw[i]);
+        }
+        // 335 bits are 42 bytes: a block of 45, five sectors; the index has three.
+        r.commit(18);
+        Blocks.sectors(r, 2, Blocks.block(3, 88, bits.toString()));
+        for (int i = 0; i < 4; i++) {
+            r.holds(i, 1, raw[i]);
+        }
     }
 
     private static void prefixCodesByLengthThenByByte() {
